@@ -101,13 +101,13 @@ final class Rig {
     return c | (long) index << 8 | (long) sub << 24 | four << 32;
   }
 
-  /** A request is sent, and its answer, if one comes in the next two ticks. */
+  /** A request is sent: its answer (the last one, if several come in the next two ticks). */
   long ask(int drive, long request) {
     int before = net.count(1);
     net.frame(0x601 + drive, false, 8, request);
     net.tick(2);
     List<Long> answers = framesOf(0x581 + drive, before);
-    return answers.isEmpty() ? NO_ANSWER : answers.get(0);
+    return answers.isEmpty() ? NO_ANSWER : answers.get(answers.size() - 1);
   }
 
   void asks(String what, int drive, long request, long due) {
