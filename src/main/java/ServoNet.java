@@ -1136,7 +1136,7 @@ public final class ServoNet {
         }
         data.values[HISTORY + 1] = code;
         data.values[HISTORY] = Math.min(ROOM, data.values[HISTORY] + 1);
-        await(code);
+        queue(code);
         tell();
       }
       if (code != LOST_FRAME) {
@@ -1157,7 +1157,7 @@ public final class ServoNet {
       return NONE;
     }
 
-    private void await(int code) {
+    private void queue(int code) {
       if (waitSize < ROOM) {
         waits[waitSize] = code;
         waitSize++;
@@ -1182,7 +1182,7 @@ public final class ServoNet {
       }
       tell();
       if (activeSize == 0) {
-        await(0);
+        queue(0);
       }
     }
 
@@ -2035,7 +2035,9 @@ public final class ServoNet {
           data.savedSinceWanted = false;
           return;
         case HISTORY:
-          Arrays.fill(data.values, HISTORY + 1, HISTORY + 9, 0);
+          for (int i = 1; i <= 8; i++) {
+            data.values[HISTORY + i] = 0;
+          }
           break;
         case PROBE:
           data.values[PROBE_STATUS] = 0;
@@ -2408,7 +2410,7 @@ public final class ServoNet {
   }
 
   /** SYNC and the process data of a drive. */
-  private static final class Process {
+  private static final class ProcessData {
     private static final int AT_ONCE = 254;
 
     private final Bus bus;
@@ -2432,7 +2434,7 @@ public final class ServoNet {
     private final int[] outSyncs = new int[MAPS];
     private int syncAt;
 
-    Process(Bus bus, Data data, Access access, Alarms alarms) {
+    ProcessData(Bus bus, Data data, Access access, Alarms alarms) {
       this.bus = bus;
       this.data = data;
       this.access = access;
@@ -2805,7 +2807,7 @@ public final class ServoNet {
     final Axis axis;
     final Access access;
     final Transfer transfer;
-    private final Process process;
+    private final ProcessData process;
     final Keeper keeper;
     private int bootAsked;
     private int heartbeatAt;
@@ -2822,7 +2824,7 @@ public final class ServoNet {
       axis = new Axis(data, alarms, modes);
       access = new Access(data, modes);
       transfer = new Transfer(bus, data, access, alarms);
-      process = new Process(bus, data, access, alarms);
+      process = new ProcessData(bus, data, access, alarms);
       keeper = new Keeper(bus, data);
     }
 
