@@ -30,6 +30,8 @@ public final class BanksTest {
     order130AndBanks();
     theNumberGoesRound();
     wrongNumbers();
+    rightSumsOfNoImages();
+    rowsAndOrder130();
     Rig.end();
   }
 
@@ -493,5 +495,48 @@ public final class BanksTest {
     Rig.same("it stays", net.bank(3, 1, 1023), 255);
     Rig.same("what it was", net.scratch(3, 1, 1023, 0), 255);
     Rig.same("what it is", net.bank(3, 1, 1023), 0);
+  }
+
+  private static void rightSumsOfNoImages() {
+    Rig rig = Rig.withDrives(1);
+    save(rig);
+    int[] good = image(rig, 0);
+    for (int at = 0; at < 2; at++) {
+      int[] image = java.util.Arrays.copyOf(good, EMPTY);
+      image[at] ^= 1;
+      writeImage(rig, 0, image);
+      Rig.same("another byte " + at + " with a right sum", rig.net.state(0, 6), -1);
+    }
+    writeImage(rig, 0, java.util.Arrays.copyOf(good, EMPTY));
+    Rig.same("as it was", rig.net.state(0, 6), 0);
+    int[] lengths = {0, 1, 10, 1025, 40000, 65535};
+    for (int length : lengths) {
+      rig.net.scratch(0, 0, 6, length & 255);
+      rig.net.scratch(0, 0, 7, length >>> 8);
+      Rig.same("a length of " + length, rig.net.state(0, 6), -1);
+    }
+  }
+
+  private static void rowsAndOrder130() {
+    Rig rig = Rig.withDrives(1);
+    rig.set(0, 0x2000, 0, 0x4241, 2);
+    save(rig);
+    rig.set(0, 0x2000, 0, 0x43, 1);
+    rig.net.clear();
+    for (int i = 0; i < 12; i++) {
+      rig.net.put(i);
+    }
+    rig.net.job(0, 0x2011, 0, false, false);
+    rig.tick(20);
+    Rig.same("one step", rig.net.entry(0, 0x2011, 0), 12);
+    rig.order(130, 0);
+    Rig.same("the text stays", rig.net.entry(0, 0x2000, 0), 1);
+    Rig.same("the program, too", rig.net.entry(0, 0x2011, 0), 12);
+    rig.order(129, 0);
+    Rig.same("the text as kept", rig.net.entry(0, 0x2000, 0), 2);
+    Rig.same("the program as kept", rig.net.entry(0, 0x2011, 0), 0);
+    rig.net.scratch(0, 0, 0, 0);
+    rig.order(129, 0);
+    Rig.same("the text's default", rig.net.entry(0, 0x2000, 0), 0);
   }
 }

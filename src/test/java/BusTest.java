@@ -15,6 +15,8 @@ public final class BusTest {
     aDriveThatWasBusOff();
     lostFramesOfADrive();
     wrongNumbers();
+    countsGoWithPower();
+    takeCountsGoWithBusOff();
     Rig.end();
   }
 
@@ -284,5 +286,48 @@ public final class BusTest {
     Rig.noIndex("station's what -1", () -> net.station(4, -1));
     Rig.noIndex("count's what 4", () -> net.count(4));
     Rig.noIndex("count's what -1", () -> net.count(-1));
+  }
+
+  private static void countsGoWithPower() {
+    Rig rig = Rig.withDrives(2);
+    ServoNet net = rig.net;
+    net.disturb(4, 3);
+    net.frame(0, false, 0, 0);
+    net.frame(0x701, true, 0, 0);
+    net.tick(1);
+    net.disturb(0, 31);
+    net.tick(1);
+    Rig.same("a send count", net.station(0, 1), 64);
+    Rig.same("a take count", net.station(0, 2), 1);
+    net.power(0, false);
+    for (int what = 0; what < 5; what++) {
+      Rig.same("without power " + what, net.station(0, what), 0);
+    }
+    net.power(0, true);
+    net.disturb(0, 32);
+    net.tick(4);
+    Rig.same("bus-off", net.station(0, 0), 1);
+    net.power(0, false);
+    net.power(0, true);
+    Rig.same("not any more", net.station(0, 0), 0);
+    net.tick(1);
+    Rig.same("its boot frame goes", net.heard(0, 0), 0);
+  }
+
+  private static void takeCountsGoWithBusOff() {
+    Rig rig = Rig.withDrives(1);
+    ServoNet net = rig.net;
+    net.frame(0x701, true, 0, 0);
+    net.tick(1);
+    net.disturb(0, 8);
+    net.tick(1);
+    Rig.same("the master's take count", net.station(4, 2), 8);
+    net.disturb(4, 32);
+    net.frame(0, false, 0, 0);
+    net.tick(4);
+    Rig.same("bus-off", net.station(4, 0), 1);
+    Rig.same("its take count stays", net.station(4, 2), 8);
+    rig.tick(128);
+    Rig.same("up to the end", net.station(4, 2), 0);
   }
 }

@@ -28,6 +28,10 @@ public final class JobsTest {
     lostRequests();
     onlyOneJob();
     wrongNumbers();
+    oneKindBehindAnother();
+    blocksOfOne();
+    exactly160();
+    patienceWithPieces();
     Rig.end();
   }
 
@@ -503,5 +507,87 @@ public final class JobsTest {
     Rig.noIndex("told -1", () -> net.told(-1));
     Rig.same("there was none", net.told(0), 0);
     Rig.same("nothing was sent", net.station(4, 3), 0);
+  }
+
+  private static void oneKindBehindAnother() {
+    Rig rig = Rig.withDrives(1);
+    fill(rig.net, 9);
+    run(rig, TEXT, 0, false, true, WELL);
+    fill(rig.net, 2);
+    run(rig, TEXT, 0, false, false, WELL);
+    Rig.same("in one piece behind blocks", rig.net.entry(0, TEXT, 0), 2);
+    run(rig, 0, 0, true, false, ABORTED);
+    Rig.same("index 0", rig.net.told(1), 0x06020000);
+    Liar liar = new Liar();
+    ServoNet net = liar.rig.net;
+    fill(net, 9);
+    net.job(1, 3, 0, false, false);
+    liar.answers(command(0x60, 4, 0), 0);
+    Rig.same("0x60 with another index", net.told(1), 0x05040001);
+    net.job(1, 3, 0, true, true);
+    liar.answers(command(0xC6, 3, 0), 9);
+    liar.answers(1, 0);
+    liar.answers(2, 0);
+    liar.answers(0x80, 1);
+    net.job(1, 3, 0, true, true);
+    liar.answers(command(0xC6, 3, 0), 9);
+    liar.answers(1, 0);
+    Rig.same("number 1 counts in another job", net.told(3), 7);
+    int[] ends = {0xA1, 0xBD, 0xE1, 0xC0};
+    for (int end : ends) {
+      liar.answers(0x80, 1);
+      net.job(1, 3, 0, true, true);
+      liar.answers(command(0xC6, 3, 0), 9);
+      liar.answers(0x81, 0);
+      liar.answers(end, 0);
+      Rig.same("no end", net.told(1), 0x05040001);
+    }
+  }
+
+  private static void blocksOfOne() {
+    Liar liar = new Liar();
+    ServoNet net = liar.rig.net;
+    fill(net, 9);
+    int before = net.count(1);
+    net.job(1, 3, 0, false, true);
+    liar.answers(command(0xA4, 3, 0), 1);
+    Rig.same("one piece", liar.rig.framesOf(0x602, before).size(), 2);
+    liar.answers(0xA2 | 1 << 8 | 1 << 16, 0);
+    Rig.same("one more", liar.rig.framesOf(0x602, before).get(2) & 255, 0x81);
+    liar.answers(0xA2 | 1 << 8 | 127 << 16, 0);
+    Rig.same("127 at the end", liar.rig.framesOf(0x602, before).get(3) & 255, 0xC1 + 4 * 5);
+    liar.answers(0xA0, 0);
+    Rig.same("not 0xA1", net.told(1), 0x05040001);
+    net.job(1, 3, 0, false, true);
+    liar.answers(command(0xA4, 3, 0), 127);
+    Rig.same("127 at first", net.told(0), RUNS);
+  }
+
+  private static void exactly160() {
+    Liar liar = new Liar();
+    ServoNet net = liar.rig.net;
+    net.job(1, 3, 0, true, false);
+    liar.answers(command(0x41, 3, 0), 160);
+    for (int i = 0; i < 22; i++) {
+      liar.answers(i % 2 * 16, i);
+    }
+    liar.answers(0x02 | 1, 0);
+    Rig.same("well", net.told(0), WELL);
+    Rig.same("160 bytes", net.told(3), 160);
+  }
+
+  private static void patienceWithPieces() {
+    Liar liar = new Liar();
+    ServoNet net = liar.rig.net;
+    net.job(1, 3, 0, true, true);
+    liar.answers(command(0xC6, 3, 0), 9);
+    for (int i = 0; i < 3; i++) {
+      liar.rig.tick(250);
+      liar.answers(5, i);
+    }
+    Rig.same("each answer counts", net.told(0), RUNS);
+    Rig.same("also one that does not count", net.told(3), 0);
+    liar.rig.tick(301);
+    Rig.same("then not", net.told(1), 0x05040000);
   }
 }

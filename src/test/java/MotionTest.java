@@ -31,6 +31,15 @@ public final class MotionTest {
     theTrace();
     theProbe();
     wrongNumbers();
+    switchesAtRest();
+    leavesOnlyOnce();
+    nothingOfTheModeStays();
+    withoutAGoalItBrakes();
+    boundsThatMeet();
+    homingAgain();
+    homingWithOddSpeeds();
+    bootsAtRest();
+    nearOnce();
     Rig.end();
   }
 
@@ -814,5 +823,192 @@ public final class MotionTest {
     Rig.noIndex("place of drive -1", () -> net.place(-1, 0));
     Rig.noIndex("place 4", () -> net.place(0, 4));
     Rig.noIndex("place -1", () -> net.place(0, -1));
+  }
+
+  private static void switchesAtRest() {
+    Rig rig = in(3);
+    rig.net.inputs(0, 3);
+    rig.tick(5);
+    Rig.same("at rest they are no fault", rig.net.state(0, 2), 4);
+    rig.net.inputs(0, 1);
+    rig.set(0, 0x60FF, 0, 50, 4);
+    rig.tick(5);
+    Rig.same("nor the one behind", rig.net.state(0, 2), 4);
+    Rig.isTrue("it moves", rig.net.place(0, 1) > 0);
+  }
+
+  private static void leavesOnlyOnce() {
+    Rig rig = in(3);
+    rig.set(0, 0x60FF, 0, 20, 4);
+    rig.tick(5);
+    word(rig, 7);
+    rig.tick(3);
+    Rig.same("it left", rig.net.state(0, 2), 3);
+    word(rig, 15);
+    Rig.same("back", rig.net.state(0, 2), 4);
+    Rig.same("it goes in the same tick", rig.net.place(0, 1), 10000);
+  }
+
+  private static void nothingOfTheModeStays() {
+    Rig rig = in(1);
+    rig.set(0, 0x607A, 0, 3, 4);
+    word(rig, 0x1F);
+    word(rig, 0x0F);
+    rig.set(0, 0x607A, 0, 9, 4);
+    word(rig, 0x1F);
+    rig.set(0, 0x605A, 0, 6, 2);
+    word(rig, 0x0B);
+    rig.tick(20);
+    Rig.same("at rest", rig.net.place(0, 1), 0);
+    long place = rig.net.place(0, 0);
+    word(rig, 0x0F);
+    rig.tick(100);
+    at("no goal, none waits", rig, place, 0);
+    rig.set(0, 0x607A, 0, 5, 4);
+    word(rig, 0x5F);
+    rig.tick(100);
+    at("behind the demand, rounded down", rig, (Math.floorDiv(place, MILLION) + 5) * MILLION, 0);
+    Rig.same("there", rig.net.entry(0, 0x6041, 0), 0x1437);
+    word(rig, 0x0B);
+    rig.tick(1);
+    word(rig, 0x0F);
+    word(rig, 0x1F);
+    Rig.same("a goal where it stands, but not for long", rig.net.entry(0, 0x6041, 0) & 0x400, 0);
+    Rig home = Rig.withDrives(1);
+    home.set(0, 0x6098, 0, 17, 1);
+    home.set(0, 0x6060, 0, 6, 1);
+    home.set(0, 0x605A, 0, 6, 2);
+    home.enable(0);
+    word(home, 0x1F);
+    home.tick(5);
+    word(home, 0x1B);
+    home.tick(20);
+    word(home, 0x1F);
+    home.tick(5);
+    at("homing does not go on", home, home.net.place(0, 0), 0);
+    Rig.same("TARGET", home.net.entry(0, 0x6041, 0), 0x437);
+    word(home, 0x0F);
+    home.set(0, 0x6098, 0, 0, 1);
+    word(home, 0x1F);
+    Rig.same("BIT 13", home.net.entry(0, 0x6041, 0), 0x2437);
+    word(home, 0x1B);
+    word(home, 0x1F);
+    Rig.same("no BIT 13", home.net.entry(0, 0x6041, 0), 0x437);
+  }
+
+  /** Back in state 4 with a speed, in modes 0 and 1. */
+  private static void withoutAGoalItBrakes() {
+    for (int mode = 0; mode <= 1; mode++) {
+      Rig rig = moving();
+      rig.set(0, 0x605A, 0, 6, 2);
+      rig.set(0, 0x6085, 0, 1000, 4);
+      rig.set(0, 0x6060, 0, mode, 1);
+      word(rig, 0x0B);
+      Rig.same("the mode", rig.net.entry(0, 0x6061, 0), mode);
+      Rig.same("braking", rig.net.place(0, 1), 299000);
+      word(rig, 0x0F);
+      Rig.same("state 4", rig.net.state(0, 2), 4);
+      Rig.same("by 0x6084", rig.net.place(0, 1), 289000);
+      rig.tick(30);
+      Rig.same("to rest", rig.net.place(0, 1), 0);
+    }
+  }
+
+  private static void boundsThatMeet() {
+    Rig rig = Rig.withDrives(1);
+    rig.set(0, 0x607D, 1, 4, 4);
+    rig.set(0, 0x607D, 2, 4, 4);
+    rig.enable(0);
+    rig.set(0, 0x607A, 0, -100, 4);
+    word(rig, 0x1F);
+    rig.tick(100);
+    at("the only place", rig, 4 * MILLION, 0);
+    word(rig, 0);
+    rig.set(0, 0x607D, 1, 5, 4);
+    rig.enable(0);
+    rig.set(0, 0x607A, 0, 20, 4);
+    word(rig, 0x1F);
+    rig.tick(100);
+    at("sub 1 above sub 2: beyond both", rig, 20 * MILLION, 0);
+  }
+
+  private static void homingAgain() {
+    Rig rig = Rig.withDrives(1);
+    rig.set(0, 0x6060, 0, 6, 1);
+    rig.enable(0);
+    word(rig, 0x1F);
+    Rig.same("homed", rig.net.entry(0, 0x6041, 0), 0x1437);
+    word(rig, 0x0F);
+    rig.set(0, 0x6098, 0, 18, 1);
+    word(rig, 0x1F);
+    Rig.same("no BIT 12", rig.net.entry(0, 0x6041, 0), 0x37);
+    rig.tick(3);
+    word(rig, 0x11F);
+    Rig.same("it halts", rig.net.place(0, 1), 30000);
+    word(rig, 0x1F);
+    Rig.same("and goes on", rig.net.place(0, 1), 40000);
+  }
+
+  private static void homingWithOddSpeeds() {
+    Rig rig = Rig.withDrives(1);
+    rig.set(0, 0x607C, 0, -5, 4);
+    rig.set(0, 0x607F, 0, 35, 4);
+    rig.set(0, 0x6098, 0, 18, 1);
+    rig.set(0, 0x6099, 2, 400, 4);
+    rig.set(0, 0x6060, 0, 6, 1);
+    rig.enable(0);
+    word(rig, 0x1F);
+    rig.tick(5);
+    Rig.same("FAST", rig.net.place(0, 1), 35000);
+    rig.net.inputs(0, 2);
+    rig.tick(4);
+    Rig.same("to rest, not beyond", rig.net.place(0, 1), 0);
+    rig.tick(5);
+    Rig.same("FAST the other way", rig.net.place(0, 1), -35000);
+    rig.net.inputs(0, 0);
+    rig.tick(1);
+    Rig.same("phase 4", rig.net.place(0, 1), -25000);
+    rig.net.inputs(0, 2);
+    rig.tick(3);
+    Rig.same("whatever the switch is then", rig.net.place(0, 1), 0);
+    rig.tick(1);
+    at("there", rig, -5 * MILLION, 0);
+  }
+
+  private static void bootsAtRest() {
+    Rig rig = moving();
+    rig.net.power(0, false);
+    Rig.same("its demand without power", rig.net.place(0, 0), rig.net.place(0, 2));
+    Rig.same("its speed", rig.net.place(0, 1), 0);
+    rig.net.power(0, true);
+    Rig.same("the speed", rig.net.place(0, 1), 0);
+    Rig.same("how far it came", rig.net.place(0, 3), 0);
+    Rig.same("0x606B", rig.net.entry(0, 0x606B, 0), 0);
+    Rig.same("0x606C", rig.net.entry(0, 0x606C, 0), 0);
+    Rig.same("state 1", rig.net.state(0, 2), 1);
+    Rig other = moving();
+    long place = other.net.place(0, 2);
+    other.order(129, 0);
+    Rig.same("by order 129 it does not coast", other.net.place(0, 2), place);
+    at("at rest", other, place, 0);
+    Rig probe = Rig.withDrives(1);
+    probe.set(0, 0x60B8, 0, 0x30, 2);
+    Rig.same("bit 0 of 0x60B9 is that of 0x60B8", probe.net.entry(0, 0x60B9, 0), 0);
+  }
+
+  private static void nearOnce() {
+    Rig rig = in(1);
+    rig.set(0, 0x6068, 0, 1, 2);
+    rig.set(0, 0x607A, 0, 1, 4);
+    word(rig, 0x1F);
+    boolean target = false;
+    for (int i = 0; i < 60 && !target; i++) {
+      target = rig.net.place(0, 0) == MILLION && rig.net.place(0, 1) == 0;
+      Rig.same("TARGET as soon as it stands", rig.net.entry(0, 0x6041, 0) & 0x400, target ? 0x400 : 0);
+      rig.tick(1);
+    }
+    Rig.isTrue("it stands", target);
+    rig.set(0, 0x6068, 0, 0, 2);
+    Rig.same("0 is as 1", rig.net.entry(0, 0x6041, 0) & 0x400, 0x400);
   }
 }

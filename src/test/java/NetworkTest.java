@@ -21,6 +21,10 @@ public final class NetworkTest {
     eightWait();
     stoppedDrivesWait();
     wrongNumbers();
+    bootsWithoutEmergencies();
+    bootsWithWhatIsKept();
+    emergenciesBehindBooting();
+    resetsFaultsAlone();
     Rig.end();
   }
 
@@ -458,5 +462,114 @@ public final class NetworkTest {
     Rig.noIndex("heard of drive 4", () -> net.heard(4, 0));
     Rig.noIndex("heard 2", () -> net.heard(0, 2));
     Rig.noIndex("heard -1", () -> net.heard(0, -1));
+  }
+
+  private static void bootsWithoutEmergencies() {
+    Rig rig = Rig.withDrives(1);
+    ServoNet net = rig.net;
+    rig.set(0, 0x1015, 0, 65535, 2);
+    rig.set(0, 0x1016, 1, 0x7F0001L, 4);
+    net.frame(0x77F, false, 1, 5);
+    rig.tick(4);
+    rig.control(0, 0x80);
+    Rig.same("one waits", net.state(0, 8), 1);
+    rig.control(0, 0);
+    net.frame(0x77F, false, 1, 5);
+    rig.tick(4);
+    Rig.same("one is active", net.state(0, 7), 1);
+    rig.order(129, 0);
+    Rig.same("none is active", net.state(0, 7), 0);
+    Rig.same("none waits", net.state(0, 8), 0);
+    Rig.same("0x603F", net.entry(0, 0x603F, 0), 0);
+    Rig.same("0x1001", net.entry(0, 0x1001, 0), 0);
+    Rig.same("0x1003", net.entry(0, 0x1003, 0), 0);
+    Rig.same("state 1", net.state(0, 2), 1);
+  }
+
+  /** All that goes on by itself begins anew with the first work, with entries from a bank. */
+  private static void bootsWithWhatIsKept() {
+    Rig rig = Rig.withDrives(1);
+    ServoNet net = rig.net;
+    rig.set(0, 0x1017, 0, 500, 2);
+    rig.set(0, 0x1006, 0, 500, 4);
+    rig.set(0, 0x1005, 0, 0x40000080L, 4);
+    rig.set(0, 0x1016, 1, 0x7F0005L, 4);
+    rig.set(0, 0x2012, 0, 50, 1);
+    rig.set(0, 0x60B8, 0, 0x11, 2);
+    net.frame(0x77F, false, 1, 5);
+    rig.tick(1);
+    rig.set(0, 0x1010, 1, 0x65766173L, 4);
+    int[] orders = {129, 130};
+    for (int order : orders) {
+      net.frame(0x77F, false, 1, 5);
+      net.inputs(0, 0);
+      rig.tick(40);
+      rig.control(0, 0);
+      rig.control(0, 0x80);
+      rig.control(0, 0);
+      net.inputs(0, 4);
+      rig.tick(1);
+      int before = net.count(1);
+      long trace = net.entry(0, 0x2010, 0);
+      net.frame(0x77F, false, 1, 5);
+      rig.tick(1);
+      rig.order(order, 0);
+      rig.tick(20);
+      Rig.same("a boot frame and a heartbeat", rig.framesOf(0x701, before).size(), 2);
+      Rig.same("a SYNC", rig.framesOf(0x80, before).size(), 1);
+      Rig.same("no heartbeat is awaited", net.state(0, 7), 0);
+      Rig.same("the trace", net.entry(0, 0x2010, 0), order == 129 ? 4 : trace);
+      Rig.same("the probe's input was 0 behind booting", net.entry(0, 0x60B9, 0), 3);
+    }
+  }
+
+  private static void emergenciesBehindBooting() {
+    int[] orders = {129, 130};
+    for (int order : orders) {
+      Rig rig = Rig.withDrives(1);
+      ServoNet net = rig.net;
+      rig.set(0, 0x1015, 0, 1000, 2);
+      rig.set(0, 0x1016, 1, 0x7F0001L, 4);
+      rig.set(0, 0x1010, 1, 0x65766173L, 4);
+      rig.tick(40);
+      net.frame(0x77F, false, 1, 5);
+      rig.tick(4);
+      rig.control(0, 0x80);
+      rig.control(0, 0);
+      rig.order(order, 0);
+      int before = net.count(1);
+      net.frame(0x77F, false, 1, 5);
+      rig.tick(4);
+      Rig.same("none was sent since booting: at once", rig.framesOf(0x81, before).size(), 1);
+    }
+  }
+
+  /** A RESET of a drive whose row is full: 0x8110 is no fault, so it stays. */
+  private static void resetsFaultsAlone() {
+    Rig rig = Rig.withDrives(1);
+    ServoNet net = rig.net;
+    rig.set(0, 0x1016, 1, 0x7F0005L, 4);
+    rig.set(0, 0x1017, 0, 1, 2);
+    rig.set(0, 0x1029, 1, 1, 1);
+    rig.operate(0);
+    rig.tick(30);
+    net.frame(0x77F, false, 1, 5);
+    rig.tick(5);
+    net.frame(0x601, false, 8, Rig.request(0xA0, 0x2010, 0, 16));
+    net.frame(0x601, false, 8, 0xA3);
+    net.frame(0x601, false, 8, 0xA2 | 16 << 16);
+    rig.tick(1);
+    Rig.same("the row is full", net.station(0, 3), 24);
+    Rig.same("0x8110", net.entry(0, 0x603F, 0), 0x8110);
+    net.disturb(0, 31);
+    rig.tick(1);
+    Rig.same("and 0x8130", net.state(0, 7), 2);
+    Rig.same("fault", net.state(0, 2), 7);
+    net.frame(0x201, false, 2, 0x80);
+    rig.tick(1);
+    Rig.same("reset", net.state(0, 2), 1);
+    Rig.same("one is left", net.state(0, 7), 1);
+    Rig.same("it is 0x8110", net.entry(0, 0x603F, 0), 0x8110);
+    Rig.same("0x1001", net.entry(0, 0x1001, 0), 0x11);
   }
 }

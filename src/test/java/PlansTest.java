@@ -25,6 +25,11 @@ public final class PlansTest {
     whenSettingsCanBeAdded();
     whatIsHeard();
     wrongNumbers();
+    lateTalks();
+    aBootFrameEndsATalk();
+    toldAnew();
+    framesThatAreNotHeard();
+    framesThatAreNoAnswers();
     Rig.end();
   }
 
@@ -394,5 +399,98 @@ public final class PlansTest {
     Rig.noIndex("planned of drive -1", () -> net.planned(-1, 0));
     Rig.noIndex("planned 5", () -> net.planned(0, 5));
     Rig.noIndex("planned -1", () -> net.planned(0, -1));
+  }
+
+  private static void lateTalks() {
+    Rig rig = new Rig(8);
+    rig.tick(700);
+    rig.net.plan(0, 1000, 0);
+    rig.net.power(0, true);
+    rig.tick(10);
+    stage("at a late hour", rig, 0, WATCHES);
+    Rig.same("no order but the one", rig.framesOf(0, 0).size(), 1);
+  }
+
+  private static void aBootFrameEndsATalk() {
+    Rig rig = new Rig(8);
+    rig.net.plan(0, 1000, 0);
+    rig.net.power(0, true);
+    rig.net.tick(2);
+    Rig.same("it was asked", rig.framesOf(0x601, 0).size(), 1);
+    rig.net.power(0, false);
+    rig.net.power(0, true);
+    rig.net.tick(1);
+    Rig.same("a talk", rig.net.planned(0, 4), 1);
+    rig.tick(10);
+    stage("it was asked again", rig, 0, WATCHES);
+    Rig.same("no try failed", rig.framesOf(0, 0).size(), 1);
+  }
+
+  private static void toldAnew() {
+    Rig rig = new Rig(8);
+    rig.net.plan(0, 1000, 0);
+    rig.net.setting(0, 0x6081, 0, 1, 4);
+    rig.net.power(0, true);
+    rig.tick(20);
+    Rig.same("one is done", rig.net.planned(0, 3), 1);
+    rig.net.plan(0, 1000, 0);
+    Rig.same("none is done", rig.net.planned(0, 3), 0);
+    Rig.same("there is none", rig.net.planned(0, 2), 0);
+    stage("it awaits", rig, 0, AWAITS);
+  }
+
+  /** Process data of drive 3 with an ID and a map. */
+  private static Rig telling(int id, long... rows) {
+    Rig rig = new Rig(8);
+    rig.net.power(3, true);
+    rig.tick(2);
+    rig.set(3, 0x1800, 1, 0x80000184L, 4);
+    rig.set(3, 0x1A00, 0, 0, 1);
+    for (int i = 0; i < rows.length; i++) {
+      rig.set(3, 0x1A00, i + 1, rows[i], 4);
+    }
+    rig.set(3, 0x1A00, 0, rows.length, 1);
+    rig.set(3, 0x1800, 1, id, 4);
+    rig.operate(3);
+    rig.tick(2);
+    Rig.same("it was sent", rig.framesOf(id, 0).size(), 1);
+    return rig;
+  }
+
+  private static void framesThatAreNotHeard() {
+    int[] ids = {0x700, 0x701, 0x702, 0x705, 0x77F, 0x781, 0x601, 0x80, 0x85, 0x81, 0x580, 0x585, 0x581};
+    for (int id : ids) {
+      Rig rig = telling(id, 0x60610008L);
+      for (int k = 0; k < 3; k++) {
+        Rig.same("one byte with " + id, rig.net.heard(k, 0), id == 0x701 + k ? 1 : -1);
+        Rig.same("no emergency with " + id, rig.net.heard(k, 1), -1);
+      }
+      rig = telling(id, 0x60640020L, 0x60FD0020L);
+      for (int k = 0; k < 3; k++) {
+        Rig.same("eight bytes with " + id, rig.net.heard(k, 0), -1);
+        Rig.same("an emergency with " + id, rig.net.heard(k, 1), id == 0x81 + k ? 0 : -1);
+      }
+    }
+  }
+
+  private static void framesThatAreNoAnswers() {
+    int[] ids = {0x481, 0x501, 0x580, 0x582, 0x601, 0x701};
+    for (int id : ids) {
+      Rig rig = telling(id, 0x60640020L, 0x60FD0020L);
+      rig.net.job(0, 0x1000, 0, true, false);
+      rig.net.hand(3, 1, false);
+      rig.tick(3);
+      Rig.same("eight bytes with " + id, rig.net.told(0), 1);
+    }
+    Rig shorter = telling(0x581, 0x60640020L);
+    shorter.net.job(0, 0x1000, 0, true, false);
+    shorter.net.hand(3, 1, false);
+    shorter.tick(3);
+    Rig.same("four bytes are no answer", shorter.net.told(0), 1);
+    Rig right = telling(0x581, 0x60640020L, 0x60FD0020L);
+    right.net.job(0, 0x1000, 0, true, false);
+    right.net.hand(3, 1, false);
+    right.tick(3);
+    Rig.same("eight are", right.net.told(1), 0x05040001);
   }
 }

@@ -21,6 +21,11 @@ public final class ProcessTest {
     oneFrameForAll();
     theProducersOwnSync();
     withASyncFirstIn();
+    inThatIsOff();
+    kind254();
+    syncsBeginAnew();
+    aWriteToInLeavesOutAlone();
+    allFourOfThem();
     Rig.end();
   }
 
@@ -450,5 +455,103 @@ public final class ProcessTest {
     rig.tick(2);
     Rig.same("IN 0, IN 1, then OUT", rig.framesOf(0x181, 0).get(0), 1);
     Rig.same("the latter one is there", net.entry(0, 0x60B8, 0), 1);
+  }
+
+  private static void inThatIsOff() {
+    Rig rig = Rig.withDrives(1);
+    rig.operate(0);
+    rig.set(0, 0x1400, 1, 0x80000201L, 4);
+    rig.set(0, 0x1400, 5, 3, 2);
+    rig.net.frame(0x201, false, 2, 6);
+    rig.tick(10);
+    Rig.same("OFF: not taken", rig.net.entry(0, 0x6040, 0), 0);
+    Rig.same("nor awaited", rig.net.state(0, 7), 0);
+    rig.set(0, 0x1400, 1, 0x201, 4);
+    rig.net.frame(0x201, false, 2, 6);
+    rig.tick(1);
+    Rig.same("not OFF: taken", rig.net.entry(0, 0x6040, 0), 6);
+  }
+
+  private static void kind254() {
+    Rig rig = Rig.withDrives(1);
+    rig.set(0, 0x1400, 2, 254, 1);
+    rig.set(0, 0x1800, 2, 254, 1);
+    rig.operate(0);
+    rig.tick(2);
+    Rig.same("OUT by itself", framesOf(rig, 0x181, 0), 1);
+    rig.net.frame(0x201, false, 2, 1);
+    rig.tick(1);
+    Rig.same("IN at once", rig.net.entry(0, 0x6040, 0), 1);
+    rig.net.frame(0x80, false, 0, 0);
+    rig.tick(2);
+    Rig.same("OUT not with a SYNC", framesOf(rig, 0x181, 0), 1);
+    rig.set(0, 0x1400, 2, 240, 1);
+    rig.set(0, 0x1800, 2, 240, 1);
+    rig.net.frame(0x201, false, 2, 6);
+    rig.tick(2);
+    Rig.same("240 waits", rig.net.entry(0, 0x6040, 0), 1);
+    rig.net.frame(0x80, false, 0, 0);
+    rig.tick(2);
+    Rig.same("for a SYNC", rig.net.entry(0, 0x6040, 0), 6);
+    Rig.same("OUT for 240 of them", framesOf(rig, 0x181, 0), 1);
+  }
+
+  private static void syncsBeginAnew() {
+    Rig rig = Rig.withDrives(1);
+    rig.set(0, 0x1800, 2, 3, 1);
+    rig.operate(0);
+    for (int i = 0; i < 2; i++) {
+      rig.net.frame(0x80, false, 0, 0);
+    }
+    rig.tick(2);
+    rig.set(0, 0x1800, 3, 0, 2);
+    for (int i = 1; i <= 3; i++) {
+      rig.net.frame(0x80, false, 0, 0);
+      rig.tick(2);
+      Rig.same("SYNC " + i + " behind the write", framesOf(rig, 0x181, 0), i / 3);
+    }
+  }
+
+  private static void aWriteToInLeavesOutAlone() {
+    Rig rig = Rig.withDrives(1);
+    rig.operate(0);
+    rig.set(0, 0x1400, 1, 0x80000201L, 4);
+    rig.tick(2);
+    int before = rig.net.count(1);
+    for (int k = 0; k < 4; k++) {
+      rig.set(0, 0x1600 + k, 0, 0, 1);
+      rig.set(0, 0x1600 + k, 4, 0, 4);
+      rig.set(0, 0x1400 + k, 5, 0, 2);
+    }
+    for (int k = 1; k < 4; k++) {
+      rig.set(0, 0x1A00 + k, 0, 0, 1);
+      rig.set(0, 0x1800 + k, 5, 0, 2);
+    }
+    rig.tick(2);
+    Rig.same("nothing was SENT", framesOf(rig, 0x181, before), 0);
+  }
+
+  /** IN and OUT 0 to 3, each with its own ID and map. */
+  private static void allFourOfThem() {
+    Rig rig = Rig.withDrives(1);
+    ServoNet net = rig.net;
+    for (int k = 1; k < 4; k++) {
+      map(rig, 0, 0x1600 + k, 0x60810020L, 0x60830020L);
+      map(rig, 0, 0x1A00 + k, 0x60640020L);
+    }
+    rig.operate(0);
+    rig.tick(2);
+    for (int k = 1; k < 4; k++) {
+      net.frame(0x201 + 0x100 * k, false, 8, 50 + k | 60L + k << 32);
+      net.hand(0, 1, false);
+      rig.tick(2);
+      Rig.same("IN " + k, net.entry(0, 0x6081, 0), 50 + k);
+      Rig.same("its second entry", net.entry(0, 0x6083, 0), 60 + k);
+    }
+    for (int k = 1; k < 4; k++) {
+      List<Long> sent = rig.framesOf(0x181 + 0x100 * k, 0);
+      Rig.same("OUT " + k, sent.size(), 4);
+      Rig.same("its last", sent.get(3), 3);
+    }
   }
 }

@@ -15,6 +15,9 @@ public final class ProgramTest {
     itEndsWithBit4();
     itHalts();
     itBeginsAnew();
+    roundsBeginAnew();
+    eachStepWaits();
+    aSpeedIsLeft();
     Rig.end();
   }
 
@@ -260,5 +263,46 @@ public final class ProgramTest {
     word(rig, 0x1F);
     rig.tick(1);
     Rig.same("state 4 begins anew", rig.net.entry(0, 0x6041, 0), 0x437);
+  }
+
+  private static void roundsBeginAnew() {
+    Rig rig = with(step(1, 500, 0, 2, 0x80), step(0, 500, 0, 0, 0));
+    word(rig, 0x1F);
+    till(rig, 1);
+    till(rig, 2);
+    rig.tick(1);
+    word(rig, 0x0F);
+    rig.tick(30);
+    long place = Math.floorDiv(rig.net.place(0, 0), MILLION);
+    word(rig, 0x1F);
+    till(rig, place + 1);
+    till(rig, place + 2);
+    till(rig, place + 3);
+    till(rig, 0);
+  }
+
+  private static void eachStepWaits() {
+    Rig rig = with(step(1, 500, 6, 0, 0), step(2, 500, 4, 0, 0), step(3, 500, 0, 0, 0));
+    word(rig, 0x1F);
+    till(rig, 1);
+    rig.tick(6);
+    Rig.isTrue("six", stands(rig, 1));
+    till(rig, 2);
+    rig.tick(4);
+    Rig.isTrue("four more", stands(rig, 2));
+    rig.tick(1);
+    Rig.isTrue("then on", !stands(rig, 2));
+  }
+
+  /** A program that begins while it still moves: the place behind is behind the demand. */
+  private static void aSpeedIsLeft() {
+    Rig rig = with(step(100, 500, 0, 0, 0x80));
+    word(rig, 0x1F);
+    rig.tick(20);
+    word(rig, 0x0F);
+    long demand = Math.floorDiv(rig.net.place(0, 0), MILLION);
+    word(rig, 0x1F);
+    Rig.isTrue("it moves still", rig.net.place(0, 1) > 0);
+    till(rig, demand + 100);
   }
 }

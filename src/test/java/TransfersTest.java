@@ -25,6 +25,8 @@ public final class TransfersTest {
     whatIsNoRequest();
     statesThatCount();
     asTheyWereThen();
+    wrongOnesWhileOthersAreOpen();
+    blocksBeginAnew();
     Rig.end();
   }
 
@@ -433,5 +435,51 @@ public final class TransfersTest {
     Rig.same("its bytes", answer >>> 8, 0);
     Rig.same("four ticks", size, 16);
     Rig.same("the trace now", rig.net.octet(0, 0x2010, 0, 0), 500 & 255);
+  }
+
+  private static void wrongOnesWhileOthersAreOpen() {
+    Rig rig = Rig.withDrives(1);
+    long[] opens = {Rig.request(0x40, NAME, 0, 0), Rig.request(0x20, TEXT, 0, 0), Rig.request(0xA0, NAME, 0, 4)};
+    for (int i = 0; i < 3; i++) {
+      rig.ask(0, opens[i]);
+      rig.asks("up", 0, Rig.request(0x40, 0x3000, 2, 0), Rig.aborted(0x3000, 2, 0x06020000));
+      rig.ask(0, opens[i]);
+      rig.asks("down in blocks", 0, Rig.request(0xC1, 0x3000, 2, 0), Rig.aborted(0x3000, 2, 0x05040001));
+      if (i < 2) {
+        rig.ask(0, opens[i]);
+        rig.asks("up in blocks", 0, Rig.request(0xA4, 0x3000, 2, 0), Rig.aborted(0x3000, 2, 0x06020000));
+        rig.ask(0, opens[i]);
+        rig.asks("up in blocks of 0", 0, Rig.request(0xA4, 0x1000, 0, 0), Rig.aborted(0x1000, 0, 0x05040002));
+      }
+      Rig.same("over", rig.net.state(0, 3), 0);
+    }
+  }
+
+  private static void blocksBeginAnew() {
+    Rig rig = Rig.withDrives(1);
+    rig.ask(0, Rig.request(0xC0, TEXT, 0, 0));
+    rig.ask(0, segment(1, "ABCDEFG"));
+    rig.ask(0, segment(2, "ABCDEFG"));
+    rig.ask(0, 0x80);
+    rig.ask(0, Rig.request(0xC0, TEXT, 0, 0));
+    rig.asks("number 1 counts", 0, segment(0x81, "HIJKLMN"), confirmed(1));
+    rig.asks("the end", 0, endOf(1, sumOf("HIJKLM")), 0xA1);
+    isText(rig, "HIJKLM");
+    rig.ask(0, Rig.request(0xA0, NAME, 0, 1));
+    rig.ask(0, 0xA3);
+    rig.ask(0, 0xA2 | 1 << 8 | 1 << 16);
+    rig.ask(0, 0x80);
+    rig.ask(0, Rig.request(0xA0, NAME, 0, 1));
+    rig.asks("from the beginning", 0, 0xA3, segment(1, "servo a"));
+    rig.ask(0, 0x80);
+    rig.ask(0, Rig.request(0x40, NAME, 0, 0));
+    rig.ask(0, 0x60);
+    rig.ask(0, Rig.request(0x40, NAME, 0, 0));
+    rig.asks("segments, too", 0, 0x60, segment(0, "servo a"));
+    rig.ask(0, Rig.request(0x20, TEXT, 0, 0));
+    rig.ask(0, segment(0, "ABCDEFG"));
+    rig.ask(0, Rig.request(0x20, TEXT, 0, 0));
+    rig.asks("and those down", 0, segment(0x0B, "XY"), 0x20);
+    isText(rig, "XY");
   }
 }
