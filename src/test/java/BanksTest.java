@@ -536,7 +536,10 @@ public final class BanksTest {
     Rig.same("the text as kept", rig.net.entry(0, 0x2000, 0), 2);
     Rig.same("the program as kept", rig.net.entry(0, 0x2011, 0), 0);
     rig.net.scratch(0, 0, 0, 0);
+    rig.net.job(0, 0x2011, 0, false, false);
+    rig.tick(20);
     rig.order(129, 0);
     Rig.same("the text's default", rig.net.entry(0, 0x2000, 0), 0);
+    Rig.same("the program's default", rig.net.entry(0, 0x2011, 0), 0);
   }
 }

@@ -294,6 +294,7 @@ public final class EntriesTest {
     Rig rig = Rig.withDrives(1);
     Rig.same("a map that is not OFF, sub 0", rig.write(0, 0x1A00, 0, 0, 1), 0x06010000);
     Rig.same("even a wrong one", rig.write(0, 0x1A00, 0, 9, 1), 0x06010000);
+    Rig.same("of IN, too", rig.write(0, 0x1600, 0, 0, 1), 0x06010000);
     Rig.same("a map that is not OFF, sub 1", rig.write(0, 0x1600, 1, 0, 4), 0x06010000);
     rig.set(0, 0x1800, 1, 0x80000181L, 4);
     Rig.same("sub 1 while sub 0 is 1", rig.write(0, 0x1A00, 1, 0, 4), 0x06010000);
